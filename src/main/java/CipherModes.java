@@ -429,11 +429,15 @@ public final class CipherModes {
             this.output = output;
         }
 
-        void start(int newKind, boolean newShows, int[] firstLink) {
+        final void start(int newKind, boolean newShows, int[] firstLink) {
             kind = newKind;
             shows = newShows;
             Rows.copy(firstLink, link);
+            forgetRest();
         }
+
+        /** Lets go what an earlier message left of a block that was not whole. */
+        abstract void forgetRest();
 
         abstract void take(int b);
 
@@ -450,8 +454,7 @@ public final class CipherModes {
             super(cipher, output);
         }
 
-        void start(int newKind, boolean newShows, int[] firstLink) {
-            super.start(newKind, newShows, firstLink);
+        void forgetRest() {
             place = 0;
         }
 
@@ -509,8 +512,7 @@ public final class CipherModes {
             super(cipher, output);
         }
 
-        void start(int newKind, boolean newShows, int[] firstLink) {
-            super.start(newKind, newShows, firstLink);
+        void forgetRest() {
             waits = 0;
         }
 
@@ -565,20 +567,23 @@ public final class CipherModes {
         }
 
         int finish() {
-            if (kind == PADDED) {
-                return shows ? giveUnpadded() : givePadded();
+            if (kind != PADDED) {
+                return waits == 0 ? NO_FAULT : WRONG_LENGTH;
             }
-            return waits == 0 ? NO_FAULT : WRONG_LENGTH;
+            if (shows) {
+                return giveUnpadded();
+            }
+            fillWithPadding();
+            giveFirstBlock();
+            return NO_FAULT;
         }
 
-        private int givePadded() {
+        private void fillWithPadding() {
             int more = SIZE - waits;
             for (int i = waits; i < SIZE; i++) {
                 waiting[i] = more;
             }
             waits = SIZE;
-            giveFirstBlock();
-            return NO_FAULT;
         }
 
         private int giveUnpadded() {

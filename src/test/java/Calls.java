@@ -30,6 +30,12 @@ final class Calls {
         return v;
     }
 
+    static void putLong(byte[] row, int from, long v) {
+        for (int i = 0; i < 8; i++) {
+            row[from + i] = (byte) (v >> (56 - 8 * i));
+        }
+    }
+
     /** Puts a key of a multiple of 8 bytes at the front of the row of keys. */
     static void setKey(CipherModes x, byte[] key) {
         for (int i = 0; i < key.length / 8; i++) {

@@ -21,9 +21,7 @@ public final class KeyTest {
         for (int i = 7; i >= 0; i--) {
             long v = random.nextLong();
             CHECKS.due("key(" + i + ")", x.key(i, v), true);
-            for (int j = 0; j < 8; j++) {
-                row[8 * i + j] = (byte) (v >> (56 - 8 * j));
-            }
+            Calls.putLong(row, 8 * i, v);
             CHECKS.due("begin", x.begin(10, 8, 0), 0);
             Calls.feedAll(x, message, 8);
             x.end();

@@ -29,6 +29,22 @@ final class Reference {
         }
     }
 
+    /** What the message was; by mode 2 with its padding still there. */
+    byte[] show(int mode, byte[] c) {
+        switch (mode) {
+            case 2:
+                return library("CBC/NoPadding", false, c);
+            case 3:
+            case 4:
+            case 5:
+                return showStolen(mode, c);
+            case 10:
+                return xts(c, false);
+            default:
+                return library(nameOf(mode), false, c);
+        }
+    }
+
     /** How many bytes are given out when t have come, before the end. */
     static int dueCount(int mode, int shows, int t) {
         if (mode >= 6 && mode <= 9) {
@@ -72,7 +88,25 @@ final class Reference {
         return straight ? Calls.joined(front, y, z) : Calls.joined(front, z, y);
     }
 
-    byte[] xts(byte[] m, boolean hides) {
+    /** Puts the whole blocks in their order again, and shows them as by mode 1. */
+    private byte[] showStolen(int mode, byte[] c) {
+        int blocks = (c.length + 15) / 16;
+        if (blocks == 1) {
+            return library("CBC/NoPadding", false, c);
+        }
+        int d = c.length - 16 * (blocks - 1);
+        int tail = 16 * (blocks - 2);
+        boolean straight = mode == 3 || (mode == 4 && d == 16);
+        int yAt = straight ? tail : tail + 16;
+        int zAt = straight ? tail + d : tail;
+        byte[] y = Arrays.copyOfRange(c, yAt, yAt + d);
+        byte[] z = Arrays.copyOfRange(c, zAt, zAt + 16);
+        byte[] cutOff = Arrays.copyOfRange(library("ECB/NoPadding", false, z), d, 16);
+        byte[] whole = Calls.joined(Arrays.copyOf(c, tail), y, cutOff, z);
+        return Arrays.copyOf(library("CBC/NoPadding", false, whole), c.length);
+    }
+
+    private byte[] xts(byte[] m, boolean hides) {
         byte[] answer = m.clone();
         int whole = m.length / 16;
         int d = m.length % 16;
