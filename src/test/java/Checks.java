@@ -1,15 +1,24 @@
-/** Counts answers that are not the ones that are due, and prints each of them. */
+/** Counts answers that are not the ones that are due, and prints them. */
 final class Checks {
     private static final int MOST_PRINTED = 20;
     private int wrong = 0;
     private int asked = 0;
+    private int printed = 0;
+    private String sentence = "";
+
+    /** The sentence of the document that the next answers are about; each has its first wrong ones printed. */
+    void sentence(String words) {
+        sentence = "\"" + words + "\": ";
+        printed = 0;
+    }
 
     void due(String what, long got, long want) {
         asked++;
         if (got != want) {
             wrong++;
-            if (wrong <= MOST_PRINTED) {
-                System.out.println(what + " answered " + got + ", due is " + want);
+            printed++;
+            if (printed <= MOST_PRINTED) {
+                System.out.println(sentence + what + " answered " + got + ", due is " + want);
             }
         }
     }
