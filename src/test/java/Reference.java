@@ -148,9 +148,10 @@ final class Reference {
     }
 
     private static byte[] xor(byte[] a, byte[] b) {
-        byte[] sum = a.clone();
+        // No clone of a: see .ci/run on small copies into new arrays.
+        byte[] sum = new byte[a.length];
         for (int i = 0; i < sum.length; i++) {
-            sum[i] ^= b[i];
+            sum[i] = (byte) (a[i] ^ b[i]);
         }
         return sum;
     }
